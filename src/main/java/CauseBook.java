@@ -218,6 +218,7 @@ public final class CauseBook {
             return refusals.refuse(BAD_NUMBER);
         }
         begin(ACT_REDUCE);
+        codes.renew();
         model.book = reducer.fewestSigns(d);
         return Integer.bitCount(model.book);
     }
@@ -371,7 +372,7 @@ public final class CauseBook {
             case 1:
                 return Integer.bitCount(which);
             case 2:
-                return Integer.numberOfTrailingZeros(which);
+                return firstOf(which);
             case 3:
                 return which;
             default:
@@ -383,6 +384,7 @@ public final class CauseBook {
         if (causeRoll.size == 0 || n < 1 || n > 3 || outside(what, 3)) {
             return NONE;
         }
+        codes.renew();
         codes.renewSets();
         int which = decoder.jointBy(n);
         switch (what) {
@@ -448,6 +450,7 @@ public final class CauseBook {
         if (outside(sign, signRoll.size) || i < NONE) {
             return NONE;
         }
+        codes.renew();
         codes.renewSets();
         int found = codes.findMinimal(sign);
         if (i == NONE) {
@@ -524,6 +527,7 @@ public final class CauseBook {
         if (d < 1 || d > MOST_REDUCED) {
             return NONE;
         }
+        codes.renew();
         return Integer.bitCount(reducer.fewestSigns(d));
     }
 
@@ -558,7 +562,7 @@ public final class CauseBook {
             return signs;
         }
         codes.renew();
-        return causeRoll.size == 0 ? NONE : Integer.numberOfTrailingZeros(decoder.nearestTo(signs));
+        return firstOf(decoder.nearestTo(signs));
     }
 
     public int explains(int cause, int start) {
@@ -684,6 +688,16 @@ public final class CauseBook {
 
     private static boolean has(int bits, int i) {
         return (bits >> i & 1) != 0;
+    }
+
+    /** The least number in a set of CAUSES, or NONE. */
+    private static int firstOf(int bits) {
+        for (int i = 0; i < MOST; i++) {
+            if (has(bits, i)) {
+                return i;
+            }
+        }
+        return NONE;
     }
 
     private static boolean isWidth(int w) {
@@ -815,11 +829,11 @@ public final class CauseBook {
         }
 
         private int ruleKind(int rule, int part) {
-            return rulePart(rule, part) / EVENTS;
+            return ruleParts[rule * RULE_PARTS + part] / EVENTS;
         }
 
         private int ruleEvent(int rule, int part) {
-            return rulePart(rule, part) % EVENTS;
+            return ruleParts[rule * RULE_PARTS + part] % EVENTS;
         }
 
         private void addRule(int sort, int a, int relation, int b, int delay) {
@@ -1078,7 +1092,7 @@ public final class CauseBook {
             int last = 0;
             for (int o = 0; o < model.objects; o++) {
                 if (has(leaders, o)) {
-                    last = Math.max(last, timeOf(o, event));
+                    last = Math.max(last, times[o * EVENTS + event]);
                 }
             }
             return last;
@@ -1092,7 +1106,7 @@ public final class CauseBook {
             int second = NEVER;
             for (int o = 0; o < model.objects; o++) {
                 if (has(leaders, o)) {
-                    int at = timeOf(o, event);
+                    int at = times[o * EVENTS + event];
                     second = Math.min(second, Math.max(first, at));
                     first = Math.min(first, at);
                 }
@@ -1203,8 +1217,8 @@ public final class CauseBook {
             known = true;
         }
 
+        /** After renew(). */
         private void renewSets() {
-            renew();
             if (setsKnown) {
                 return;
             }
@@ -1469,7 +1483,7 @@ public final class CauseBook {
         }
 
         private int leastOfGroup(int cause) {
-            return Integer.numberOfTrailingZeros(causesLike(codes.ofCauses[cause]));
+            return firstOf(causesLike(codes.ofCauses[cause]));
         }
 
         private int groupCount() {
@@ -1606,7 +1620,7 @@ public final class CauseBook {
         }
     }
 
-    /** TO REDUCE. */
+    /** TO REDUCE; codes are renewed by who calls. */
     private static final class Reducer {
         private final Codes codes;
         /** SIGNS by which two CODES are APART, and how many of them the BOOK needs. */
@@ -1621,7 +1635,6 @@ public final class CauseBook {
         }
 
         private int fewestSigns(int d) {
-            codes.renew();
             listPairs(d);
             int all = (1 << codes.signs.size) - 1;
             int found = all;
@@ -1823,7 +1836,7 @@ public final class CauseBook {
         }
 
         private boolean byTwo(int entries) {
-            int first = Integer.lowestOneBit(entries);
+            int first = entries & -entries;
             for (int i = 0; i < offerCount; i++) {
                 if ((offers[i] & first) != 0 && byOne(entries & ~offers[i])) {
                     return true;
@@ -1833,7 +1846,7 @@ public final class CauseBook {
         }
 
         private boolean byThree(int entries) {
-            int first = Integer.lowestOneBit(entries);
+            int first = entries & -entries;
             for (int i = 0; i < offerCount; i++) {
                 if ((offers[i] & first) != 0 && byTwo(entries & ~offers[i])) {
                     return true;

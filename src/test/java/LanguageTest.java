@@ -31,8 +31,7 @@ public final class LanguageTest {
         "Object", "Exception", "HashMap", "Map", "Set", "Optional", "Stream", "instanceof", "equals", "hashCode",
         "toString", "var", "goto",
     };
-    private static final Set<String> CALLS_OF_LIBRARY = Set.of("Integer.bitCount", "Integer.numberOfTrailingZeros",
-        "Integer.lowestOneBit", "Math.max", "Math.min", "Math.abs", "System.arraycopy", "Arrays.fill");
+    private static final Set<String> CALLS_OF_LIBRARY = Set.of("Integer.bitCount", "Math.max", "Math.min", "Math.abs", "System.arraycopy", "Arrays.fill");
     private static int wrong = 0;
 
     public static void main(String[] args) throws Exception {

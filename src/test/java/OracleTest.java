@@ -25,11 +25,14 @@ public final class OracleTest {
     private final boolean settles;
     /** Few kinds, many links and rules, a log that comes of causes: so that much comes of much. */
     private final boolean dense;
+    /** Every third number or so is one that can't be. */
+    private final boolean wild;
     private final List<String> told = new ArrayList<>();
 
     private OracleTest(long seed) {
         random = new Random(seed);
         dense = seed % 3 != 0;
+        wild = seed % 5 == 0;
         kinds = 1 + random.nextInt(dense ? 2 : 4);
         events = dense ? 3 + random.nextInt(2) : 1 + random.nextInt(8);
         timeSpan = random.nextBoolean() ? 1000 : 12 + random.nextInt(60);
@@ -113,7 +116,7 @@ public final class OracleTest {
     // ---- what is asked with
 
     private int upTo(int most) {
-        int odd = random.nextInt(100);
+        int odd = random.nextInt(wild ? 16 : 100);
         if (odd == 0) {
             return new int[] {Integer.MIN_VALUE, Integer.MAX_VALUE, -2, -5, 31, 32, 4096, 1 << 30}[random.nextInt(8)];
         }

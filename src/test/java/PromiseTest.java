@@ -166,6 +166,18 @@ public final class PromiseTest {
         x.sign(0, 2);
         x.sign(0, 3);
         refused("16 signs", x, x.object(0), -5);
+        x.sign(0, 3);
+        due("twelve signs", x.object(0), 3);
+        due("twelve signs", x.count(4), 12);
+        x.cause(0, 7, 1);
+        x.cause(0, 6, 1);
+        x.cause(1, 0, 1);
+        x.cause(1, 1, 1);
+        x.cause(1, 2, 1);
+        x.cause(1, 3, 1);
+        due("twelve causes", x.object(1), 4);
+        due("twelve causes", x.count(3), 12);
+        refused("sixteen causes", x, x.object(1), -5);
         x = star();
         x.book(5);
         x.see(3);
@@ -194,6 +206,10 @@ public final class PromiseTest {
         }
         refused("no room", x, x.link(1, 0, 3), -5);
         refused("no room, but it is there", x, x.link(0, 0, 1), -4);
+        x = star();
+        due("codes are old", x.ofCause(2, 3), 1);
+        x.link(0, 2, 3);
+        due("codes are new", x.ofCause(2, 3), 2);
     }
 
     private static void acts2() {
@@ -213,6 +229,21 @@ public final class PromiseTest {
         due("cut(0)", x.cut(0), 1);
         due("cut(0)", x.cut(0), 0);
         refused("none is left", x, x.cut(0), -2);
+        x = star();
+        due("codes are old", x.ofCause(0, 3), 2);
+        x.cut(0);
+        due("codes are new", x.ofCause(0, 3), 1);
+        x.undo();
+        due("codes are old again", x.ofCause(0, 3), 2);
+        x = objects(0, 0, 0, 0, 0, 0);
+        for (int i = 0; i < 20; i++) {
+            x.link(i / 6 % 3, i % 6, (i + 1 + i / 18) % 6);
+        }
+        due("the last but one of twenty", x.cut(18), 19);
+        due("1 leads to 2 and 3", x.ofObject(1, 1), 12);
+        due("0 leads to 1", x.ofObject(0, 1), 2);
+        due("the last of nineteen", x.cut(18), 18);
+        due("1 leads to 2", x.ofObject(1, 1), 4);
 
         promise = 6;
         x = new CauseBook();
@@ -231,6 +262,18 @@ public final class PromiseTest {
         }
         refused("no room", x, x.rule(0, 0, 0, 0, 0), -5);
         refused("no room, a wrong number", x, x.rule(9, 0, 0, 0, 0), -1);
+        CauseBook y = star();
+        due("codes are old", y.ofCause(2, 3), 1);
+        y.rule(1, 0, 0, 9, 0);
+        y.rule(0, 0, 0, 1, 0);
+        y.sign(0, 1);
+        y.ofCause(2, 3);
+        y.rule(0, 0, 0, 2, 0);
+        y.sign(0, 2);
+        due("codes are new", y.ofCause(2, 3), 3);
+        y.drop(0);
+        y.drop(0);
+        due("codes are new", y.ofCause(2, 3), 2);
 
         promise = 7;
         refused("drop(12)", x, x.drop(12), -2);
@@ -556,7 +599,7 @@ public final class PromiseTest {
         // causes: 0 (0, 0) 1 (0, 1) 2 (1, 0) 3 (1, 1) 4 (2, 0) 5 (2, 1) 6 (4, 7)
         x.rule(0, 1, 2, 24, 5);
         due("same: event 0 comes 5 after event 1", x.time(2, 0, 0), 5);
-        due("same: whatever the kind of b", x.time(2, 1, 0), -2);
+        due("same: of itself alone", x.time(2, 1, 0), -2);
         due("the earlier one", x.time(3, 0, 0), 0);
         x.rule(4, 0, 0, 9, 2);
         due("two: one has it", x.time(1, 3, 1), -2);
@@ -592,6 +635,12 @@ public final class PromiseTest {
         y.rule(0, 0, 0, 1, 2);
         due("round", y.time(1, 1, 1), 2);
         due("all: of no links", objectsAll().time(1, 1, 1), -2);
+        CauseBook z = objects(0, 1);
+        z.cause(0, 0, 1);
+        z.cause(1, 0, 1);
+        z.rule(0, 8, 0, 1, 4);
+        due("same: of kind a", z.time(2, 1, 1), 4);
+        due("same: of another kind", z.time(3, 0, 1), -2);
     }
 
     /** An object of the kind that all lead to, but none leads there. */
@@ -660,7 +709,14 @@ public final class PromiseTest {
         due("two", x.joint(2, 0), 3);
         due("how many twos", x.joint(2, 2), 3);
         due("one", x.joint(1, 1), 2);
-        due("at first no code of two is kept", star().joint(2, 1), 1);
+        due("the least of all sets", star().joint(2, 1), 1);
+        x.drop(0);
+        due("all, without two", x.joint(3, 0), 7);
+        due("all, without two", x.joint(3, 1), 1);
+        x.cause(0, 0, 0);
+        for (int what = 0; what < 3; what++) {
+            due("no causes", x.joint(3, what), NONE);
+        }
 
         promise = 28;
         x = star();
@@ -678,6 +734,8 @@ public final class PromiseTest {
         // codes 15 and 14
         x.see(15);
         due("one turns it", x.hold(1), 1);
+        x.book(1);
+        due("all of the book", x.hold(1), 1);
         x.cause(0, 5, 0);
         due("no other cause", x.hold(1), NONE);
         x = objects(0, 1);
@@ -978,6 +1036,15 @@ public final class PromiseTest {
         due("w 10", x.busiest(10, 0), 19);
         due("w 999", x.busiest(999, 0), 0);
         due("w 999", x.busiest(999, 1), 3);
+        x.note(1, 12);
+        x.note(2, 10);
+        x.note(0, 10);
+        due("an earlier one, told later", x.busiest(8, 0), 5);
+        due("w 5", x.busiest(5, 0), 8);
+        due("w 5", x.busiest(5, 1), 3);
+        x.undo();
+        x.undo();
+        x.undo();
         due("w 0", x.busiest(0, 0), NONE);
         due("w 1000", x.busiest(1000, 1), NONE);
         due("what 2", x.busiest(5, 2), NONE);
@@ -1041,6 +1108,12 @@ public final class PromiseTest {
         x.cause(0, 7, 1);
         due("by none: start", x.best(1, 0), 0);
         due("by none: how many", x.best(1, 1), 0);
+        x.clear();
+        x.note(0, 60);
+        x.note(1, 54);
+        x.note(1, 31);
+        x.note(0, 37);
+        due("an earlier one, told later", x.best(0, 0) * 10 + x.best(0, 1), 292);
         x.clear();
         x.note(0, 6);
         due("not ahead of 0", x.best(0, 0) * 10 + x.best(0, 1), 1);
