@@ -253,6 +253,7 @@ public final class PromiseTest {
         refused("a -1", x, x.rule(0, -1, 0, 0, 0), -1);
         refused("relation 3", x, x.rule(1, 0, 3, 0, 0), -1);
         refused("relation -1", x, x.rule(1, 0, -1, 0, 0), -1);
+        refused("relation 3 of same", x, x.rule(0, 0, 3, 0, 0), -1);
         refused("b 32", x, x.rule(0, 0, 0, 32, 0), -1);
         refused("b -1", x, x.rule(0, 0, 0, -1, 0), -1);
         refused("delay 10", x, x.rule(0, 0, 0, 0, 10), -1);
@@ -333,7 +334,11 @@ public final class PromiseTest {
         x.note(4, 4);
         due("taken back", x.sign(0, 5), 3);
         stands("taken back", x, 3, 0, 0, 0, 3, 7, 0, 0);
+        x.see(3);
+        x.book(2);
+        x.note(0, 0);
         due("of a kind without objects", x.sign(3, 0), 3);
+        stands("of a kind without objects", x, 3, 0, 0, 0, 3, 7, 0, 0);
         for (int e = 2; e < 6; e++) {
             x.sign(0, e);
         }
@@ -526,6 +531,11 @@ public final class PromiseTest {
         due("image anew", x.image(1), 6);
         x.object(0);
         due("back(1)", x.back(1), 6);
+        x = new CauseBook();
+        x.object(0);
+        x.image(0);
+        x.undo();
+        due("an image outlasts what is undone", x.back(0), 1);
     }
 
     private static void spreads() {
@@ -566,6 +576,12 @@ public final class PromiseTest {
         x.rule(0, 0, 0, 4, 4);
         x.rule(0, 0, 0, 1, 8);
         due("another at the same time, one too late", x.spread(1, 3), 79);
+        x = objects(0);
+        x.cause(0, 0, 1);
+        x.rule(0, 0, 0, 0, 1);
+        due("a cause later than its time", x.spread(1, 3), 0);
+        x.rule(0, 0, 0, 0, 0);
+        due("a cause at its time", x.spread(1, 3), 2);
 
         promise = 21;
         x = star();
