@@ -142,22 +142,22 @@ public final class OracleTest {
     }
 
     private int aCause() {
-        return upTo(book.count(3) - 1);
+        return upTo(oracle.count(3) - 1);
     }
 
     private int aSign() {
-        return upTo(book.count(4) - 1);
+        return upTo(oracle.count(4) - 1);
     }
 
     private int causeSet() {
-        int set = upTo((1 << book.count(3)) - 1);
+        int set = upTo((1 << oracle.count(3)) - 1);
         return random.nextInt(3) == 0 || set < 0 ? set : set & random.nextInt(4096);
     }
 
     private int signSet() {
-        int all = (1 << book.count(4)) - 1;
-        if (random.nextInt(4) == 0 && book.count(3) > 0) {
-            int code = book.code(1 << random.nextInt(book.count(3)));
+        int all = (1 << oracle.count(4)) - 1;
+        if (random.nextInt(4) == 0 && oracle.count(3) > 0) {
+            int code = oracle.code(1 << random.nextInt(oracle.count(3)));
             return random.nextBoolean() ? code : (code ^ 1 << random.nextInt(12)) & all;
         }
         return upTo(all);
@@ -173,15 +173,15 @@ public final class OracleTest {
 
     /** A sign that comes of some cause begun at one of three starts, sometimes a little too early or late. */
     private int[] entryOfCause() {
-        if (book.count(3) == 0) {
+        if (oracle.count(3) == 0) {
             return new int[] {aSign(), moment()};
         }
-        int cause = random.nextInt(Math.min(3, book.count(3)));
-        int sign = book.ordered(cause, random.nextInt(1 + book.ofCause(cause, 3)));
+        int cause = random.nextInt(Math.min(3, oracle.count(3)));
+        int sign = oracle.ordered(cause, random.nextInt(1 + oracle.ofCause(cause, 3)));
         if (sign < 0) {
             return new int[] {aSign(), moment()};
         }
-        int after = book.time(1 << cause, book.ofSign(sign, 0), book.ofSign(sign, 1));
+        int after = oracle.time(1 << cause, oracle.ofSign(sign, 0), oracle.ofSign(sign, 1));
         return new int[] {sign, new int[] {0, 5, 40}[random.nextInt(3)] + after + random.nextInt(3) - random.nextInt(2)};
     }
 
@@ -198,15 +198,15 @@ public final class OracleTest {
             }
             case "object": return new int[] {kind()};
             case "link": return dense && random.nextInt(8) != 0
-                ? new int[] {0, random.nextInt(Math.max(1, book.count(0))), random.nextInt(Math.max(1, book.count(0)))}
-                : new int[] {random.nextInt(4) == 0 ? upTo(2) : 0, upTo(book.count(0) - 1), upTo(book.count(0) - 1)};
-            case "cut": return new int[] {upTo(book.count(1) - 1)};
+                ? new int[] {0, random.nextInt(Math.max(1, oracle.count(0))), random.nextInt(Math.max(1, oracle.count(0)))}
+                : new int[] {random.nextInt(4) == 0 ? upTo(2) : 0, upTo(oracle.count(0) - 1), upTo(oracle.count(0) - 1)};
+            case "cut": return new int[] {upTo(oracle.count(1) - 1)};
             case "rule": return dense && random.nextInt(8) != 0
                 ? new int[] {random.nextInt(5), 8 * random.nextInt(kinds) + random.nextInt(3), 0,
                     8 * random.nextInt(kinds) + 1 + random.nextInt(3), random.nextInt(10)}
                 : new int[] {upTo(4), mark(), random.nextInt(4) == 0 ? upTo(2) : 0, mark(),
                 random.nextInt(3) == 0 ? 0 : upTo(9)};
-            case "drop": return new int[] {upTo(book.count(2) - 1)};
+            case "drop": return new int[] {upTo(oracle.count(2) - 1)};
             case "cause": return new int[] {kind(), dense && random.nextInt(6) != 0 ? 0 : event(), upTo(9)};
             case "sign": return new int[] {kind(), dense && random.nextInt(6) != 0 ? 1 + random.nextInt(3) : event()};
             case "reduce": case "reduced": return new int[] {random.nextInt(10) == 0 ? upTo(7) : 1 + random.nextInt(6)};
@@ -214,7 +214,7 @@ public final class OracleTest {
             case "note": return dense && random.nextInt(8) != 0 ? entryOfCause() : new int[] {aSign(), moment()};
             case "window": return new int[] {start(), width()};
             case "image": case "back": return new int[] {upTo(1)};
-            case "time": return new int[] {causeSet(), upTo(book.count(0) - 1), event()};
+            case "time": return new int[] {causeSet(), upTo(oracle.count(0) - 1), event()};
             case "spread": return new int[] {causeSet(), upTo(3)};
             case "code": return new int[] {causeSet()};
             case "distance": return new int[] {aCause(), random.nextInt(4) == 0 ? -1 : aCause(), upTo(1)};
@@ -234,8 +234,8 @@ public final class OracleTest {
             case "best": return new int[] {aCause(), upTo(1)};
             case "ofCause": return new int[] {aCause(), upTo(4)};
             case "ofSign": return new int[] {aSign(), upTo(4)};
-            case "ofObject": return new int[] {upTo(book.count(0) - 1), upTo(6)};
-            case "ofRule": return new int[] {upTo(book.count(2) - 1), upTo(4)};
+            case "ofObject": return new int[] {upTo(oracle.count(0) - 1), upTo(6)};
+            case "ofRule": return new int[] {upTo(oracle.count(2) - 1), upTo(4)};
             case "count": return new int[] {upTo(16)};
             default: return new int[0];
         }

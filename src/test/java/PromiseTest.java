@@ -1,12 +1,5 @@
 /** Each promise by its number: ordinary inputs, edges, wrong inputs, with answers worked out by hand. */
-public final class PromiseTest {
-    private static final int NONE = -1;
-    private static final int LOW = Integer.MIN_VALUE;
-    private static final int HIGH = Integer.MAX_VALUE;
-    private static int checks = 0;
-    private static int wrong = 0;
-    private static int promise = 0;
-
+public final class PromiseTest extends Checks {
     public static void main(String[] args) {
         acts1();
         acts2();
@@ -18,88 +11,11 @@ public final class PromiseTest {
         groupsAndAsking();
         logs();
         facts();
-        System.out.println("PromiseTest: " + checks + " checks, " + wrong + " wrong");
-        if (wrong != 0) {
-            System.exit(1);
-        }
-    }
-
-    private static void due(String what, long got, long want) {
-        checks++;
-        if (got != want) {
-            wrong++;
-            System.out.println("promise " + promise + ": " + what + " answered " + got + ", due is " + want);
-        }
-    }
-
-    /** Wants count(0) .. count(8) to be these. */
-    private static void stands(String when, CauseBook x, int... want) {
-        for (int what = 0; what < want.length; what++) {
-            due(when + ": count(" + what + ")", x.count(what), want[what]);
-        }
-    }
-
-    /** Wants an answer and what is told of it after. */
-    private static void refused(String what, CauseBook x, int got, int by) {
-        due(what, got, by);
-        due(what + ": status", x.status(), by);
-    }
-
-    private static CauseBook objects(int... kinds) {
-        CauseBook x = new CauseBook();
-        for (int kind : kinds) {
-            x.object(kind);
-        }
-        return x;
-    }
-
-    /** Codes 3, 6, 4 of three causes of weight 4, each sign coming 2 later. */
-    private static CauseBook star() {
-        CauseBook x = objects(0, 0, 0, 1, 1, 1);
-        x.link(0, 0, 3);
-        x.link(0, 0, 4);
-        x.link(0, 1, 4);
-        x.link(0, 1, 5);
-        x.link(0, 2, 5);
-        x.rule(1, 0, 0, 9, 2);
-        x.cause(0, 0, 4);
-        x.sign(1, 1);
-        return x;
-    }
-
-    /** Three causes lead to an object that has one sign of two of them, another of all. */
-    private static CauseBook gate() {
-        CauseBook x = objects(0, 0, 0, 1);
-        x.link(1, 0, 3);
-        x.link(1, 1, 3);
-        x.link(1, 2, 3);
-        x.rule(4, 0, 1, 9, 1);
-        x.rule(3, 0, 1, 10, 2);
-        x.cause(0, 0, 1);
-        x.sign(1, 1);
-        x.sign(1, 2);
-        return x;
-    }
-
-    /** One cause, four signs at 7, 1, 1, 4; EVENT 5 brings all of them but the first. */
-    private static CauseBook chain() {
-        CauseBook x = objects(0);
-        x.rule(0, 0, 0, 1, 7);
-        x.rule(0, 0, 0, 2, 1);
-        x.rule(0, 2, 2, 27, 0);
-        x.rule(0, 3, 0, 4, 3);
-        x.rule(0, 5, 0, 2, 2);
-        x.rule(0, 5, 0, 6, 9);
-        x.cause(0, 0, 2);
-        x.sign(0, 1);
-        x.sign(0, 2);
-        x.sign(0, 3);
-        x.sign(0, 4);
-        return x;
+        report("PromiseTest");
     }
 
     private static void acts1() {
-        promise = 1;
+        promise(1);
         CauseBook x = new CauseBook();
         stands("new", x, 0, 0, 0, 0, 0, 0, 0, 0, 0, 0, 0, 0, 0, 2, 1, 1, 1, NONE);
         due("status", x.status(), 0);
@@ -123,7 +39,7 @@ public final class PromiseTest {
         due("cuts(1, -1, 0)", x.cuts(1, NONE, 0), 0);
         due("undo", x.undo(), -4);
 
-        promise = 2;
+        promise(2);
         x = new CauseBook();
         int[] first = {2, 1, 1, 1};
         int[] most = {16, 16, 9, 5};
@@ -142,7 +58,7 @@ public final class PromiseTest {
         due("count(9)", x.count(9), 11);
         due("count(8)", x.count(8), 0);
 
-        promise = 3;
+        promise(3);
         x = new CauseBook();
         refused("object(4)", x, x.object(4), -1);
         refused("object(-1)", x, x.object(-1), -1);
@@ -187,7 +103,7 @@ public final class PromiseTest {
         due("object of signs", x.object(1), 7);
         stands("object of signs", x, 8, 5, 1, 4, 4, 15, 0, 0);
 
-        promise = 4;
+        promise(4);
         x = objects(0, 1, 2);
         due("link(2, 0, 1)", x.link(2, 0, 1), 0);
         due("link(2, 1, 0)", x.link(2, 1, 0), 1);
@@ -213,7 +129,7 @@ public final class PromiseTest {
     }
 
     private static void acts2() {
-        promise = 5;
+        promise(5);
         CauseBook x = star();
         refused("cut(5)", x, x.cut(5), -2);
         refused("cut(-1)", x, x.cut(-1), -2);
@@ -245,7 +161,7 @@ public final class PromiseTest {
         due("the last of nineteen", x.cut(18), 18);
         due("1 leads to 2", x.ofObject(1, 1), 4);
 
-        promise = 6;
+        promise(6);
         x = new CauseBook();
         refused("sort 5", x, x.rule(5, 0, 0, 0, 0), -1);
         refused("sort -1", x, x.rule(-1, 0, 0, 0, 0), -1);
@@ -276,7 +192,7 @@ public final class PromiseTest {
         y.drop(0);
         due("codes are new", y.ofCause(2, 3), 2);
 
-        promise = 7;
+        promise(7);
         refused("drop(12)", x, x.drop(12), -2);
         refused("drop(-1)", x, x.drop(-1), -2);
         due("drop(3)", x.drop(3), 11);
@@ -288,7 +204,7 @@ public final class PromiseTest {
         due("drop(0)", x.drop(0), 9);
         due("rule 0 was 1", x.ofRule(0, 1), 30);
 
-        promise = 8;
+        promise(8);
         x = objects(0, 1, 0);
         refused("kind 4", x, x.cause(4, 0, 1), -1);
         refused("event 8", x, x.cause(0, 8, 1), -1);
@@ -321,7 +237,7 @@ public final class PromiseTest {
         due("twelve", x.cause(1, 3, 1), 0);
         refused("one more", x, x.cause(1, 4, 1), -5);
 
-        promise = 9;
+        promise(9);
         x = objects(0, 1, 0);
         refused("kind 4", x, x.sign(4, 0), -1);
         refused("event -1", x, x.sign(0, -1), -1);
@@ -350,7 +266,7 @@ public final class PromiseTest {
     }
 
     private static void acts3() {
-        promise = 10;
+        promise(10);
         CauseBook x = star();
         refused("reduce(0)", x, x.reduce(0), -1);
         refused("reduce(7)", x, x.reduce(7), -1);
@@ -368,7 +284,7 @@ public final class PromiseTest {
         due("codes that are empty need none", x.reduce(6), 0);
         due("the book is empty", x.count(5), 0);
 
-        promise = 11;
+        promise(11);
         x = star();
         due("book(5)", x.book(5), 2);
         due("it is so", x.count(5), 5);
@@ -379,7 +295,7 @@ public final class PromiseTest {
         refused("book(HIGH)", x, x.book(HIGH), -1);
         due("as it was", x.count(5), 7);
 
-        promise = 12;
+        promise(12);
         due("see(5)", x.see(5), 2);
         due("see(6)", x.see(6), 2);
         due("see(6) again", x.see(6), 0);
@@ -390,7 +306,7 @@ public final class PromiseTest {
         x.book(1);
         due("signs beyond the book may be seen", x.see(7), 1);
 
-        promise = 13;
+        promise(13);
         x = star();
         refused("time 1000, no sign", x, x.note(3, 1000), -1);
         refused("time -1", x, x.note(0, -1), -1);
@@ -402,7 +318,7 @@ public final class PromiseTest {
         refused("no room", x, x.note(0, 0), -5);
         refused("no room, no sign", x, x.note(7, 0), -2);
 
-        promise = 14;
+        promise(14);
         due("clear", x.clear(), 20);
         due("status stays", x.status(), -2);
         due("it is empty", x.count(7), 0);
@@ -411,7 +327,7 @@ public final class PromiseTest {
         due("both can be undone", x.undo(), 11);
         due("the log is there again", x.count(7), 20);
 
-        promise = 15;
+        promise(15);
         x = star();
         x.note(0, 10);
         x.note(2, 12);
@@ -436,7 +352,7 @@ public final class PromiseTest {
     }
 
     private static void undoing() {
-        promise = 16;
+        promise(16);
         CauseBook x = new CauseBook();
         refused("nothing", x, x.undo(), -4);
         x.object(0);
@@ -499,7 +415,7 @@ public final class PromiseTest {
         refused("the eleventh", x, x.undo(), -4);
         stands("five are left", x, 5, 0, 0, 0, 0, 0, 0, 0, 0);
 
-        promise = 17;
+        promise(17);
         x = star();
         x.note(0, 1);
         x.see(5);
@@ -509,7 +425,7 @@ public final class PromiseTest {
         refused("image(2)", x, x.image(2), -1);
         refused("image(-1)", x, x.image(-1), -1);
 
-        promise = 18;
+        promise(18);
         refused("back(2)", x, x.back(2), -1);
         refused("back(1)", x, x.back(1), -4);
         x.object(3);
@@ -539,7 +455,7 @@ public final class PromiseTest {
     }
 
     private static void spreads() {
-        promise = 19;
+        promise(19);
         CauseBook x = star();
         due("the cause itself", x.time(1, 0, 0), 0);
         due("along", x.time(1, 4, 1), 2);
@@ -554,7 +470,7 @@ public final class PromiseTest {
         due("no such event", x.time(1, 0, -1), NONE);
         sorts();
 
-        promise = 20;
+        promise(20);
         x = star();
         due("facts", x.spread(1, 0), 3);
         due("latest", x.spread(1, 1), 2);
@@ -583,7 +499,7 @@ public final class PromiseTest {
         x.rule(0, 0, 0, 0, 0);
         due("a cause at its time", x.spread(1, 3), 2);
 
-        promise = 21;
+        promise(21);
         x = star();
         due("code(0)", x.code(0), 0);
         due("code(1)", x.code(1), 3);
@@ -668,7 +584,7 @@ public final class PromiseTest {
     }
 
     private static void decoding() {
-        promise = 22;
+        promise(22);
         CauseBook x = star();
         due("0, 1", x.distance(0, 1, 0), 2);
         due("0, 2", x.distance(0, 2, 0), 3);
@@ -685,7 +601,7 @@ public final class PromiseTest {
         due("no such", x.distance(0, -2, 0), NONE);
         due("what 2", x.distance(0, 1, 2), NONE);
 
-        promise = 23;
+        promise(23);
         x = star();
         x.see(2);
         int[] want = {1, 2, 0, 3, 2, NONE};
@@ -703,7 +619,7 @@ public final class PromiseTest {
         x.cause(0, 0, 0);
         due("no causes", x.nearest(0), NONE);
 
-        promise = 24;
+        promise(24);
         x = star();
         x.see(7);
         int[][] joints = {{1, 1, 2}, {3, 0, 2}, {3, 0, 3}};
@@ -734,7 +650,7 @@ public final class PromiseTest {
             due("no causes", x.joint(3, what), NONE);
         }
 
-        promise = 28;
+        promise(28);
         x = star();
         x.see(2);
         due("how many", x.hold(0), 1);
@@ -767,7 +683,7 @@ public final class PromiseTest {
         x.book(30);
         due("two of four make a tie", x.hold(1), 6);
 
-        promise = 29;
+        promise(29);
         x = gate();
         due("twos", x.minimal(0, NONE), 3);
         due("first", x.minimal(0, 0), 3);
@@ -790,7 +706,7 @@ public final class PromiseTest {
     }
 
     private static void chances() {
-        promise = 25;
+        promise(25);
         CauseBook x = star();
         x.see(2);
         due("0 upper", x.odds(0, 0), 112);
@@ -813,7 +729,7 @@ public final class PromiseTest {
         due("all is 0: nothing", x.odds(NONE, 1), 1);
         greatOdds();
 
-        promise = 26;
+        promise(26);
         x = star();
         x.see(2);
         due("first", x.likeliest(0), 0);
@@ -833,7 +749,7 @@ public final class PromiseTest {
         x.cause(0, 0, 0);
         due("no causes", x.likeliest(1), NONE);
 
-        promise = 27;
+        promise(27);
         x = star();
         x.see(0);
         due("ranked(0)", x.ranked(0), 2);
@@ -888,7 +804,7 @@ public final class PromiseTest {
     }
 
     private static void linksAndOrder() {
-        promise = 30;
+        promise(30);
         CauseBook x = star();
         due("each alike: the first", x.weakest(0), 0);
         due("each alike: one", x.weakest(1), 1);
@@ -918,7 +834,7 @@ public final class PromiseTest {
         x.sign(1, 0);
         due("a link cut may bring a sign", x.weakest(1), 1);
 
-        promise = 31;
+        promise(31);
         x = chain();
         int[] order = {1, 2, 3, 0, NONE};
         for (int i = 0; i < 5; i++) {
@@ -930,7 +846,7 @@ public final class PromiseTest {
         x.book(0);
         due("whatever the book", x.ordered(0, 0), 1);
 
-        promise = 32;
+        promise(32);
         x = chain();
         due("alone", x.sure(0), 0);
         due("no such cause", x.sure(1), NONE);
@@ -948,7 +864,7 @@ public final class PromiseTest {
     }
 
     private static void groupsAndAsking() {
-        promise = 34;
+        promise(34);
         CauseBook x = star();
         due("how many", x.groups(0), 3);
         due("margin", x.groups(1), 1);
@@ -981,7 +897,7 @@ public final class PromiseTest {
         x.book(3);
         due("corrected of two", x.groups(2), 0);
 
-        promise = 35;
+        promise(35);
         x = star();
         due("group(2)", x.group(2), 2);
         x.book(1);
@@ -993,7 +909,7 @@ public final class PromiseTest {
         due("group(3)", x.group(3), NONE);
         due("group(-1)", x.group(-1), NONE);
 
-        promise = 36;
+        promise(36);
         x = star();
         due("reduced(1)", x.reduced(1), 2);
         due("reduced(2)", x.reduced(2), 3);
@@ -1007,7 +923,7 @@ public final class PromiseTest {
             due("reduced(" + d + ")", x.reduced(d), Math.min(d, 4));
         }
 
-        promise = 37;
+        promise(37);
         x = star();
         x.see(2);
         due("sign", x.ask(0), 0);
@@ -1035,7 +951,7 @@ public final class PromiseTest {
     }
 
     private static void logs() {
-        promise = 33;
+        promise(33);
         CauseBook x = star();
         due("an empty log", x.busiest(5, 0), 0);
         due("none", x.busiest(5, 1), 0);
@@ -1066,7 +982,7 @@ public final class PromiseTest {
         due("what 2", x.busiest(5, 2), NONE);
         due("what -1", x.busiest(5, -1), NONE);
 
-        promise = 38;
+        promise(38);
         due("how many", x.cuts(5, NONE, 0), 2);
         due("how many, whatever what", x.cuts(5, NONE, 9), 2);
         due("begins", x.cuts(5, 0, 0), 20);
@@ -1091,7 +1007,7 @@ public final class PromiseTest {
         due("no causes", x.cuts(5, 0, 2), NONE);
         due("seen is as it was", x.count(6), 0);
 
-        promise = 39;
+        promise(39);
         x = chain();
         // signs 0 .. 3 at 7, 1, 1, 4
         x.note(1, 11);
@@ -1112,7 +1028,7 @@ public final class PromiseTest {
         x.terms(3, 2);
         due("start 10, slack 2", x.explains(0, 10), 5);
 
-        promise = 40;
+        promise(40);
         due("slack 2: start", x.best(0, 0), 9);
         due("slack 2: how many", x.best(0, 1), 5);
         x.terms(3, 1);
@@ -1139,7 +1055,7 @@ public final class PromiseTest {
     }
 
     private static void covers() {
-        promise = 41;
+        promise(41);
         CauseBook x = star();
         due("an empty log", x.cover(), 0);
         // codes 3, 6, 4, each sign 2 after the start
@@ -1167,7 +1083,7 @@ public final class PromiseTest {
     }
 
     private static void facts() {
-        promise = 42;
+        promise(42);
         CauseBook x = chain();
         int[] want = {0, 0, 2, 4, 7, NONE};
         for (int what = 0; what < 6; what++) {
@@ -1181,7 +1097,7 @@ public final class PromiseTest {
         due("no signs", x.ofCause(1, 3), 0);
         due("no time", x.ofCause(1, 4), NONE);
 
-        promise = 43;
+        promise(43);
         x = star();
         x.book(6);
         x.see(1);
@@ -1196,7 +1112,7 @@ public final class PromiseTest {
         due("no such", x.ofSign(3, 0), NONE);
         due("no such", x.ofSign(-1, 0), NONE);
 
-        promise = 44;
+        promise(44);
         x = objects(3, 1, 2);
         x.link(0, 0, 1);
         x.link(0, 0, 2);
@@ -1213,7 +1129,7 @@ public final class PromiseTest {
         due("no such", x.ofObject(3, 0), NONE);
         due("no such", x.ofObject(-1, 0), NONE);
 
-        promise = 45;
+        promise(45);
         x.rule(2, 31, 1, 17, 9);
         int[] rule = {2, 31, 1, 17, 9, NONE};
         for (int what = 0; what < 6; what++) {
@@ -1223,7 +1139,7 @@ public final class PromiseTest {
         due("no such", x.ofRule(1, 0), NONE);
         due("no such", x.ofRule(-1, 0), NONE);
 
-        promise = 46;
+        promise(46);
         x = star();
         x.note(2, 7);
         x.book(3);
@@ -1246,7 +1162,7 @@ public final class PromiseTest {
     }
 
     private static void statusOfAll() {
-        promise = 47;
+        promise(47);
         CauseBook x = star();
         due("status", x.status(), 0);
         x.undo();
