@@ -14,6 +14,7 @@ public final class QuestionBoundaryTest extends Checks {
         likeliest();
         ranked();
         hold();
+        holdOfAll();
         minimal();
         weakest();
         ordered();
@@ -404,6 +405,45 @@ public final class QuestionBoundaryTest extends Checks {
         due("one, the least that does", x.hold(1), 4);
         x.book(8);
         due("all but one at 0", x.hold(1), 8);
+    }
+
+    /** Each CAUSE but the last lacks another SIGN: the last is NEAREST only once all of these are told. */
+    private static void holdOfAll() {
+        promise(28, "how many SIGNS (what 0): all of the BOOK");
+        CauseBook x = coded(4, 14, 13, 11, 7, 15);
+        due("four of four", x.hold(0), 4);
+        due("which", x.hold(1), 15);
+        x.book(7);
+        // the fourth has all of these too
+        due("three of three", x.hold(1), 7);
+        x = objects(0, 0, 0, 0, 0, 1);
+        for (int o = 0; o < 5; o++) {
+            for (int p = o + 1; p < 5; p++) {
+                x.link(0, o, p);
+            }
+        }
+        x.link(1, 5, 0);
+        for (int e = 0; e < 2; e++) {
+            for (int f = 2; f < 4; f++) {
+                x.rule(1, e, 0, f, 0);
+                x.rule(2, e, 0, f, 0);
+            }
+            x.rule(0, e, 0, 3 - e, 0);
+            x.rule(1, 8, 1, 2 * e, 0);
+            x.cause(0, e, 1);
+        }
+        x.cause(1, 0, 1);
+        x.sign(0, 2);
+        x.sign(0, 3);
+        for (int c = 0; c < 10; c++) {
+            due("all but one", x.code(1 << c), 1023 - (1 << c));
+        }
+        due("all", x.code(1024), 1023);
+        due("ten are NEAREST", x.nearest(3), 1023);
+        due("ten of ten", x.hold(0), 10);
+        due("which", x.hold(1), 1023);
+        x.book(1022);
+        due("nine of nine", x.hold(1), 1022);
     }
 
     private static void minimal() {
