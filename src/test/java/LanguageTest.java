@@ -5,7 +5,9 @@ import java.lang.reflect.Modifier;
 import java.nio.file.Files;
 import java.nio.file.Path;
 import java.util.HashSet;
+import java.util.Map;
 import java.util.Set;
+import java.util.TreeMap;
 import java.util.TreeSet;
 import java.util.regex.Matcher;
 import java.util.regex.Pattern;
@@ -50,6 +52,8 @@ public final class LanguageTest {
         library(code);
         names(code);
         methodLengths(code);
+        callDepths(code);
+        documentsFace();
         System.out.println(wrong == 0 ? "LanguageTest: all is kept" : "LanguageTest: " + wrong + " breaches");
         if (wrong != 0) {
             System.exit(1);
@@ -151,5 +155,56 @@ public final class LanguageTest {
                 begun = -1;
             }
         }
+    }
+
+    /** Calls go at most eight deep, and none comes back to itself; methods are told by their names alone. */
+    private static void callDepths(String code) {
+        Map<String, Set<String>> callees = new TreeMap<>();
+        Matcher m = Pattern.compile("(?m)^( {4}| {8})(?:public|private) (?:static )?[\\w\\[\\]]+ (\\w+)\\([^)]*\\) \\{$").matcher(code);
+        Map<String, String> bodies = new TreeMap<>();
+        while (m.find()) {
+            String body = code.substring(m.end(), code.indexOf("\n" + m.group(1) + "}", m.end()));
+            need(bodies.put(m.group(2), body) == null, "two methods have the name " + m.group(2));
+        }
+        need(bodies.size() > FACE.length, "the methods are found");
+        for (Map.Entry<String, String> method : bodies.entrySet()) {
+            Set<String> called = new TreeSet<>();
+            Matcher call = Pattern.compile("(?<!new )\\b(\\w+)\\(").matcher(method.getValue());
+            while (call.find()) {
+                if (bodies.containsKey(call.group(1))) {
+                    called.add(call.group(1));
+                }
+            }
+            callees.put(method.getKey(), called);
+        }
+        for (String name : bodies.keySet()) {
+            int depth = depth(name, callees, 1);
+            need(depth <= 8, name + " goes " + depth + " calls deep");
+        }
+    }
+
+    /** Of a recursion more than eight, for it ends here alone. */
+    private static int depth(String name, Map<String, Set<String>> callees, int open) {
+        int deepest = open;
+        for (String callee : callees.get(name)) {
+            deepest = open > 8 ? deepest : Math.max(deepest, depth(callee, callees, open + 1));
+        }
+        return deepest;
+    }
+
+    /** FACE is what the document says. */
+    private static void documentsFace() throws Exception {
+        Path file = Path.of("../shared/DOC.md");
+        if (!Files.exists(file)) {
+            System.out.println("LanguageTest: no document beside the checkout, the face is not compared with it");
+            return;
+        }
+        String document = Files.readString(file);
+        Set<String> told = new TreeSet<>();
+        Matcher m = Pattern.compile("(?m)^    public (int|long) (\\w+)\\(([^)]*)\\);$").matcher(document);
+        while (m.find()) {
+            told.add(m.group(1) + " " + m.group(2) + "(" + m.group(3).replaceAll(" \\w+(, )?", ",").replaceAll(",$", "") + ")");
+        }
+        need(told.equals(new TreeSet<>(Set.of(FACE))), "the document's face is " + told);
     }
 }
